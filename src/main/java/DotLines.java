@@ -1226,18 +1226,19 @@ public final class DotLines {
 
     boolean staysInBand(int i, int j, int miss) {
       for (int k = i + 1; k < j; k++) {
-        if (!isNear(i, j, xs[k], ys[k], miss)) {
+        if (!isNear(i, j, k, miss)) {
           return false;
         }
       }
       return true;
     }
 
-    boolean isNear(int i, int j, int x, int y, int miss) {
+    /** Whether point k is near enough to the line through points i and j, both sides taken to the square. */
+    boolean isNear(int i, int j, int k, int miss) {
       long lineX = xs[j] - xs[i];
       long lineY = ys[j] - ys[i];
-      long toX = x - xs[i];
-      long toY = y - ys[i];
+      long toX = xs[k] - xs[i];
+      long toY = ys[k] - ys[i];
       long square = lineX * lineX + lineY * lineY;
       if (square == 0) {
         return 10000L * (toX * toX + toY * toY) <= (long) miss * miss;
@@ -1263,9 +1264,8 @@ public final class DotLines {
     private final int[] leastOfTwo = new int[MOST_STEPS + 1];
     private final int[] nextOfTwo = new int[MOST_STEPS + 1];
     private int nextOfThree;
-    /** Of the points between, only the outermost in each line can be the farthest. */
-    private final int[] lowest = new int[HIGHEST + 1];
-    private final int[] highest = new int[HIGHEST + 1];
+    /** A point that was too far from a line: the next line from near there fails by it most often, too. */
+    private int farPoint;
 
     Pieces(Border border) {
       this.border = border;
@@ -1291,27 +1291,40 @@ public final class DotLines {
       follow(last);
     }
 
-    /** Of several ends with the same number of pieces the last one is taken: the first piece is to be the longest. */
+    /** From the last end back: of several with the same number of pieces the longest first piece is wanted. */
     private void lookAhead(int i, int last, int miss) {
-      forgetBetween();
       leastOfTwo[i] = FAR;
       nextOfTwo[i] = last;
       int leastOfThree = FAR;
-      for (int j = i + 1; j < last; j++) {
-        boolean stays = betweenIsNear(i, j, miss);
-        if (stays && 1 + least[j] <= leastOfTwo[i]) {
+      for (int j = last - 1; j > i; j--) {
+        boolean better = 1 + least[j] < leastOfTwo[i];
+        boolean betterOfThree = i == 0 && 1 + leastOfTwo[j] < leastOfThree;
+        boolean stays = (better || betterOfThree) && staysNear(i, j, miss);
+        if (stays && better) {
           leastOfTwo[i] = 1 + least[j];
           nextOfTwo[i] = j;
         }
-        if (stays && i == 0 && 1 + leastOfTwo[j] <= leastOfThree) {
+        if (stays && betterOfThree) {
           leastOfThree = 1 + leastOfTwo[j];
           nextOfThree = j;
         }
-        addBetween(j);
       }
-      boolean toTheEnd = betweenIsNear(i, last, miss);
+      boolean toTheEnd = staysNear(i, last, miss);
       least[i] = toTheEnd ? 1 : leastOfTwo[i];
       next[i] = toTheEnd ? last : nextOfTwo[i];
+    }
+
+    private boolean staysNear(int i, int j, int miss) {
+      if (farPoint > i && farPoint < j && !border.isNear(i, j, farPoint, miss)) {
+        return false;
+      }
+      for (int k = i + 1; k < j; k++) {
+        if (!border.isNear(i, j, k, miss)) {
+          farPoint = k;
+          return false;
+        }
+      }
+      return true;
     }
 
     private void follow(int last) {
@@ -1327,27 +1340,6 @@ public final class DotLines {
         number = n + 1;
         ends[number] = point;
       }
-    }
-
-    private void forgetBetween() {
-      Arrays.fill(lowest, FAR);
-      Arrays.fill(highest, -1);
-    }
-
-    private void addBetween(int k) {
-      int y = border.ys[k];
-      lowest[y] = Math.min(lowest[y], border.xs[k]);
-      highest[y] = Math.max(highest[y], border.xs[k]);
-    }
-
-    private boolean betweenIsNear(int i, int j, int miss) {
-      for (int y = 0; y <= HIGHEST; y++) {
-        if (highest[y] >= 0
-            && !(border.isNear(i, j, lowest[y], y, miss) && border.isNear(i, j, highest[y], y, miss))) {
-          return false;
-        }
-      }
-      return true;
     }
 
     /** Whether the middle of a dot is in the polygon of the pieces. */
@@ -1783,7 +1775,7 @@ public final class DotLines {
       size = Math.min(length, words.length);
       at = 0;
       place = NONE;
-      if (sign() >= 'A' && sign() <= 'Z') {
+      if (byteAhead() >= 'A' && byteAhead() <= 'Z') {
         at++;
       } else {
         stop();
@@ -1797,7 +1789,7 @@ public final class DotLines {
     }
 
     /** -1 behind the end, and behind a fault: so nothing is read on. */
-    private int sign() {
+    private int byteAhead() {
       return place == NONE && at >= 0 && at < size ? text[at] : -1;
     }
 
@@ -1808,7 +1800,7 @@ public final class DotLines {
     }
 
     private void take(int wanted) {
-      if (sign() == wanted) {
+      if (byteAhead() == wanted) {
         at++;
       } else {
         stop();
@@ -1817,7 +1809,7 @@ public final class DotLines {
 
     private boolean readOr(int depth) {
       boolean holds = readAnd(depth);
-      for (int n = 0; n < size && sign() == '|'; n++) {
+      for (int n = 0; n < size && byteAhead() == '|'; n++) {
         at++;
         boolean other = readAnd(depth);
         holds = holds || other;
@@ -1827,7 +1819,7 @@ public final class DotLines {
 
     private boolean readAnd(int depth) {
       boolean holds = readTest(depth);
-      for (int n = 0; n < size && sign() == '&'; n++) {
+      for (int n = 0; n < size && byteAhead() == '&'; n++) {
         at++;
         boolean other = readTest(depth);
         holds = holds && other;
@@ -1837,11 +1829,11 @@ public final class DotLines {
 
     private boolean readTest(int depth) {
       boolean turned = false;
-      for (int n = 0; n < size && sign() == '!'; n++) {
+      for (int n = 0; n < size && byteAhead() == '!'; n++) {
         at++;
         turned = !turned;
       }
-      boolean holds = sign() == '(' ? readBracket(depth) : readComparison();
+      boolean holds = byteAhead() == '(' ? readBracket(depth) : readComparison();
       return holds != turned;
     }
 
@@ -1858,7 +1850,7 @@ public final class DotLines {
 
     private boolean readComparison() {
       int one = readSum();
-      int comparison = sign();
+      int comparison = byteAhead();
       if (comparison != '<' && comparison != '>' && comparison != '=') {
         stop();
         return false;
@@ -1873,8 +1865,8 @@ public final class DotLines {
 
     private int readSum() {
       int sum = readAtom();
-      for (int n = 0; n < size && (sign() == '+' || sign() == '-'); n++) {
-        boolean more = sign() == '+';
+      for (int n = 0; n < size && (byteAhead() == '+' || byteAhead() == '-'); n++) {
+        boolean more = byteAhead() == '+';
         at++;
         int atom = readAtom();
         sum = more ? sum + atom : sum - atom;
@@ -1883,10 +1875,10 @@ public final class DotLines {
     }
 
     private int readAtom() {
-      if (isDigit(sign())) {
+      if (isDigit(byteAhead())) {
         return readNumber();
       }
-      int field = fieldOf(sign());
+      int field = fieldOf(byteAhead());
       if (field < 0) {
         stop();
         return 0;
@@ -1896,13 +1888,13 @@ public final class DotLines {
     }
 
     private int readNumber() {
-      if (sign() == '0') {
+      if (byteAhead() == '0') {
         at++;
         return 0;
       }
       int number = 0;
-      for (int n = 0; n < MOST_DIGITS && isDigit(sign()); n++) {
-        number = 10 * number + sign() - '0';
+      for (int n = 0; n < MOST_DIGITS && isDigit(byteAhead()); n++) {
+        number = 10 * number + byteAhead() - '0';
         at++;
       }
       return number;
