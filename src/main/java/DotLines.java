@@ -53,7 +53,6 @@ public final class DotLines {
   private final History history;
   private final Shelf[] shelves;
   private final Board boardThen;
-  private final Rules rulesThen;
   private boolean imageTaken;
 
   public DotLines() {
@@ -76,7 +75,6 @@ public final class DotLines {
     history = new History();
     shelves = madeShelves;
     boardThen = new Board();
-    rulesThen = new Rules();
     imageTaken = false;
   }
 
@@ -402,7 +400,7 @@ public final class DotLines {
 
   public int image() {
     boardThen.takeFrom(board);
-    rulesThen.takeFrom(rules);
+    rules.takeImage();
     imageTaken = true;
     return board.dots();
   }
@@ -412,7 +410,7 @@ public final class DotLines {
       return NOT_NOW;
     }
     board.takeFrom(boardThen);
-    rules.takeFrom(rulesThen);
+    rules.bringBack();
     history.forget();
     return board.dots();
   }
@@ -883,9 +881,10 @@ public final class DotLines {
       int ways = board.touching == 0 ? 4 : 8;
       size[face] = 0;
       first[face] = WIDEST * y + x;
+      // no dot of the face is above its first one
+      top[face] = y;
       left[face] = x;
       right[face] = x;
-      top[face] = y;
       bottom[face] = y;
       faceOfDot[WIDEST * y + x] = face;
       queue[0] = WIDEST * y + x;
@@ -910,7 +909,6 @@ public final class DotLines {
       size[face]++;
       left[face] = Math.min(left[face], x);
       right[face] = Math.max(right[face], x);
-      top[face] = Math.min(top[face], y);
       bottom[face] = Math.max(bottom[face], y);
     }
 
@@ -1565,14 +1563,14 @@ public final class DotLines {
       if (number > MOST_COLOURS) {
         return false;
       }
-      least = Integer.MAX_VALUE;
+      least = 0;
       kept = 0;
       // in this order the sets go up as bits, so the first of several stays
       for (int chosen = 1; chosen < 1 << number; chosen++) {
         if (Integer.bitCount(chosen) <= most) {
           int set = asSet(chosen, number);
           int sum = sumWith(set);
-          if (sum < least) {
+          if (kept == 0 || sum < least) {
             least = sum;
             kept = set;
           }
@@ -1720,6 +1718,8 @@ public final class DotLines {
     final int[][] texts = new int[MOST][LONGEST_ROW];
     final int[] sizes = new int[MOST];
     final boolean[] told = new boolean[MOST];
+    private int numberThen;
+    private final boolean[] toldThen = new boolean[MOST];
 
     int add(int[] text, int size) {
       if (number >= MOST || size > LONGEST_ROW) {
@@ -1742,12 +1742,18 @@ public final class DotLines {
       return count;
     }
 
-    void takeFrom(Rules other) {
-      number = other.number;
+    /** Rules are only ever added behind the others, so their texts need not be kept twice. */
+    void takeImage() {
+      numberThen = number;
       for (int r = 0; r < MOST; r++) {
-        System.arraycopy(other.texts[r], 0, texts[r], 0, LONGEST_ROW);
-        sizes[r] = other.sizes[r];
-        told[r] = other.told[r];
+        toldThen[r] = told[r];
+      }
+    }
+
+    void bringBack() {
+      number = numberThen;
+      for (int r = 0; r < MOST; r++) {
+        told[r] = toldThen[r];
       }
     }
   }

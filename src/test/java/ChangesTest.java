@@ -89,7 +89,7 @@ public final class ChangesTest {
     x.tell(0, false);
     Due.is("image", x.image(), 6);
     Due.is("changes stay", x.count(7), 1);
-    Due.show(x, "0*16/1*16");
+    Due.show(x, "0*16/1*16/2*16");
     x.tone(2, 3);
     x.touch(0);
     x.tell(0, true);
@@ -118,8 +118,16 @@ public final class ChangesTest {
     Due.is("sign again", x.sign(0), 'B');
     Due.show(x, "00");
     Due.is("another image", x.image(), 2);
+    Due.text(x, 3, "C:s=1");
+    Due.is("a rule more", x.rule(3), 2);
     Due.show(x, "000");
     Due.is("the later one", x.restore(), 2);
+    Due.is("the rule is gone", x.count(5), 2);
+    Due.text(x, 3, "D:s=2");
+    Due.is("another in its place", x.rule(3), 2);
+    x.tell(1, false);
+    Due.is("that is told", x.sign(0), 'D');
+    Due.show(x, "000");
     Due.is("shelves are no part of it", x.picture(0), 3);
   }
 }

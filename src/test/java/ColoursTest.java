@@ -70,6 +70,12 @@ public final class ColoursTest {
     Due.is("again", x.makeFew(2), 0);
     Due.is("one change", x.count(7), 1);
     Due.is("undone", x.undo(), 5);
+    // dots that a refused text had beside the picture are none of it
+    x = Due.of("12/12");
+    Due.text(x, 1, "5*16/5*16/5*16/5*9");
+    Due.is("refused", x.picture(1), -118);
+    Due.is("two dots alone", x.makeFew(1), 2);
+    Due.is("two dots back", x.undo(), 2);
     Due.is("k 0", x.makeFew(0), -1);
     Due.is("k -1", x.makeFew(-1), -1);
   }

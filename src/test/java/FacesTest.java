@@ -21,6 +21,13 @@ public final class FacesTest {
     Due.is("faceOf below", x.faceOf(-1), -1);
     x.paint(17, 1);
     Due.is("faceOf 17 painted", x.faceOf(17), 1);
+    Due.show(x, "0*16/0*16/0*16/0*16");
+    Due.is("a great face", x.face(0, 0), 64);
+    Due.show(x, "1/0");
+    int[] small = {1, 1, 0, 0, 0, 1, 1, 0, 1, 0, 1, 4};
+    for (int what = 0; what < small.length; what++) {
+      Due.is("a small one of the same number, " + what, x.face(0, what), small[what]);
+    }
   }
 
   private static void measures() {

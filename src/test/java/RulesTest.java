@@ -134,6 +134,7 @@ public final class RulesTest {
     x.rule(0);
     Due.is("told already", x.tell(0, true), 0);
     Due.is("the first", x.sign(0), 'A');
+    Due.is("both are told", x.count(6), 2);
     Due.is("not any more", x.tell(0, false), 1);
     Due.is("not any more again", x.tell(0, false), 0);
     Due.is("the second", x.sign(0), 'B');

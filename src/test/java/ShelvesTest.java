@@ -100,6 +100,12 @@ public final class ShelvesTest {
     Due.is("a piece from", x.copy(3, 0, 1, 0, 1), -12);
     Due.is("a piece to", x.copy(1, 0, 3, 9, 1), -12);
     Due.is("another sort", x.copy(1, 9, 2, 0, 1), -12);
+    x.row(4, 0, 3);
+    x.row(5, 0, 3);
+    x.keep(4, 1, 0, 0, 1);
+    Due.is("a piece where a row of the same sort was, from", x.copy(4, 0, 5, 0, 1), -12);
+    Due.is("a piece where a row of the same sort was, to", x.copy(5, 0, 4, 0, 1), -12);
+    Due.is("two pieces", x.copy(4, 0, 4, 0, 0), -12);
     Due.is("refused", x.element(2, 0), 0);
   }
 
@@ -118,6 +124,7 @@ public final class ShelvesTest {
     Due.is("j above", x.keep(1, 1, 0, 1, 13), -1);
     Due.is("told far", x.keep(1, 1, 0, 1, Integer.MAX_VALUE), -1);
     Due.is("nothing was kept", x.reach(1), -11);
+    Due.is("both 0", x.keep(1, 1, 0, 1, 0), 0);
     Due.is("both the steps", x.keep(1, 1, 0, 1, 12012), 0);
     Due.is("a piece", x.reach(1), 0);
     Due.is("nothing, the others do not matter", x.keep(1, 0, 9, -9, -9), 0);
@@ -134,7 +141,7 @@ public final class ShelvesTest {
   private static void reaches() {
     // a square of 5 with steps 0 .. 20: point 5 is 5, 0, point 8 is 5, 3, point 11 is 4, 5
     DotLines x = Due.of("0*5/0*5/0*5/0*5/0*5");
-    int[][] due = {{8, 8, 5, 12, 15, 10}, {11, 9, 6, 13, 16, 11}, {3, 3, 3, 4, 7, 8}, {20, 0, 0, 0, 3, 5}};
+    int[][] due = {{8, 8, 5, 12, 15, 10}, {11, 9, 6, 13, 16, 11}, {3, 3, 3, 4, 7, 8}, {1, 1, 1, 1, 4, 6}, {6, 6, 5, 9, 12, 10}, {2, 2, 2, 3, 6, 7}, {20, 0, 0, 0, 3, 5}};
     for (int[] row : due) {
       for (int kind = 0; kind < 5; kind++) {
         x.keep(kind, 1, kind, 0, row[0]);
