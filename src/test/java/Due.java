@@ -11,6 +11,14 @@ final class Due {
     }
   }
 
+  static void same(String what, String got, String want) {
+    looked++;
+    if (!got.equals(want)) {
+      wrong++;
+      System.out.println(what + ": is" + got + ", due is" + want);
+    }
+  }
+
   static void text(DotLines x, int shelf, String text) {
     is("row for " + text, x.row(shelf, 0, text.length()), 0);
     for (int i = 0; i < text.length(); i++) {
