@@ -1123,7 +1123,6 @@ public final class DotLines {
       int startX = x;
       int startY = y;
       int way = 0;
-      steps = 0;
       for (int n = 0; n < MOST_STEPS; n++) {
         ways[n] = way;
         xs[n] = x;
@@ -1279,10 +1278,6 @@ public final class DotLines {
       foundFace = face;
       foundMiss = miss;
       int last = border.steps;
-      least[last] = 0;
-      next[last] = last;
-      leastOfTwo[last] = FAR;
-      nextOfTwo[last] = last;
       for (int i = last - 1; i >= 0; i--) {
         lookAhead(i, last, miss);
       }

@@ -27,6 +27,7 @@ public final class ChangeBoundsTest {
     theLatestImage();
     imagesOfTonesAndTouch();
     imagesOfNoRulesAndOfTwelve();
+    imagesOfEachRuleAlone();
     imagesOfTheGreatestAndTheLeast();
     whatIsNoneOfTheImage();
     Due.end();
@@ -421,6 +422,24 @@ public final class ChangeBoundsTest {
     Due.is("those told then", x.count(6), 4);
     Due.is("the first told then", x.sign(0), 'O');
     Due.is("no room then", x.rule(0), -2);
+  }
+
+  private static void imagesOfEachRuleAlone() {
+    for (int alone = 0; alone < 12; alone++) {
+      DotLines x = new DotLines();
+      for (int r = 0; r < 12; r++) {
+        Due.text(x, 0, (char) ('A' + r) + ":s=1");
+        x.rule(0);
+        x.tell(r, r == alone);
+      }
+      x.image();
+      for (int r = 0; r < 12; r++) {
+        x.tell(r, r != alone);
+      }
+      x.restore();
+      Due.is("one is told", x.count(6), 1);
+      Due.is("rule " + alone, x.sign(0), 'A' + alone);
+    }
   }
 
   private static void imagesOfTheGreatestAndTheLeast() {

@@ -8,6 +8,7 @@ public final class PictureBoundsTest {
 
   public static void main(String[] args) {
     aNewPicture();
+    theFirstCallOfAll();
     wideFromOneTo16();
     highFromOneTo12();
     dotsAreTold16YAndX();
@@ -80,6 +81,47 @@ public final class PictureBoundsTest {
     }
     Due.is("painted", x.paint(0, 15), 0);
     Due.is("it is", x.dot(0), 15);
+  }
+
+  /** Nothing has been found of faces, borders and pieces ahead of it. */
+  private static void theFirstCallOfAll() {
+    Due.is("dot", new DotLines().dot(0), 0);
+    Due.is("paint", new DotLines().paint(0, 1), 0);
+    Due.is("clean", new DotLines().clean(20), 0);
+    Due.is("faceOf", new DotLines().faceOf(0), 0);
+    Due.is("size", new DotLines().face(0, 0), 1);
+    Due.is("steps", new DotLines().face(0, 11), 4);
+    Due.is("pair", new DotLines().pair(0, 0, 0), -1);
+    Due.is("step", new DotLines().step(0, 3, 0), 3);
+    Due.is("corners", new DotLines().corners(0, 0), 20);
+    Due.is("cornered", new DotLines().cornered(0, 0, 1), 1);
+    Due.is("inBand", new DotLines().inBand(0, 0, 2, 0), 0);
+    Due.is("fewest", new DotLines().fewest(0, 0, -1), 4);
+    Due.is("a piece", new DotLines().fewest(0, 0, 3), 3);
+    Due.is("drawn", new DotLines().drawn(0, 0, 0), 1);
+    Due.is("differ", new DotLines().differ(0, 0), 0);
+    Due.is("breadth", new DotLines().breadth(0, 0), 1);
+    Due.is("middle", new DotLines().breadth(0, 1), 1);
+    Due.is("stroke", new DotLines().stroke(0, 16), 0);
+    Due.is("like", new DotLines().like(0, 0), 1);
+    Due.is("butFor", new DotLines().butFor(0, 0), 0);
+    Due.is("leader", new DotLines().leader(0), 0);
+    Due.is("few", new DotLines().few(1, 1), 1);
+    Due.is("makeFew", new DotLines().makeFew(1), 0);
+    Due.is("pen", new DotLines().pen(0, -1), 0);
+    Due.is("its first", new DotLines().pen(0, 0), 0);
+    Due.is("no pen", new DotLines().pen(1, -1), -4);
+    Due.is("tell", new DotLines().tell(0, true), -1);
+    Due.is("sign", new DotLines().sign(0), -4);
+    Due.is("undo", new DotLines().undo(), -3);
+    Due.is("redo", new DotLines().redo(), -3);
+    Due.is("image", new DotLines().image(), 1);
+    Due.is("restore", new DotLines().restore(), -3);
+    Due.is("keep", new DotLines().keep(0, 1, 4, 0, 4), 0);
+    Due.is("no such point", new DotLines().keep(0, 1, 4, 0, 5), -1);
+    for (int what = 0; what < 9; what++) {
+      Due.is("count " + what, new DotLines().count(what), what < 5 ? 1 : 0);
+    }
   }
 
   // ---- wide 1 .. 16, high 1 .. 12
