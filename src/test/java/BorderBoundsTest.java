@@ -16,6 +16,7 @@ public final class BorderBoundsTest {
     zeroFirst();
     roundTheRowOneCornerAlone();
     roundTheRowWithNone();
+    cornersByTrial();
     pointsWithoutATurn();
     everyPieceOfOneStep();
     jUpToAllSteps();
@@ -24,8 +25,10 @@ public final class BorderBoundsTest {
     atLeastThree();
     theIthPiece();
     theLongestFirst();
+    piecesByTrial();
     missesOfFewest();
     drawnStrictlyToTheRight();
+    drawnByLinesUpAndDown();
     drawnAtTheRim();
     differFromNoneToAll();
     Due.end();
@@ -201,6 +204,54 @@ public final class BorderBoundsTest {
     cornered(x, 0, 99, 120, 0, 0, 0, 0, 0, 0, 0, 0);
   }
 
+  /** Shapes whose first and last turns are of all ways that there are, a greater one ahead of a smaller one. */
+  private static void cornersByTrial() {
+    String[] pictures = {"1", "0110/1100", "1100/0110", "010/111/010", "0011/0110/1100", "111/101/101", "101/111/101",
+        "111/001/111", "1*16/1*16/1*16"};
+    DotLines x = Due.of("101010/111111");
+    for (String picture : pictures) {
+      DotLines alone = Due.of(picture);
+      int f = alone.faceOf(alone.dot(0) == 1 ? 0 : picture.indexOf('1'));
+      x.corners(0, 50);
+      Due.text(x, 0, picture);
+      x.picture(0);
+      for (int cost = 0; cost <= 99; cost += 11) {
+        tried(x, f, cost);
+      }
+    }
+  }
+
+  private static void tried(DotLines x, int f, int cost) {
+    int[] points = new int[20];
+    int turns = 0;
+    for (int i = 0; i < x.face(f, 11); i++) {
+      if (x.step(f, i, 3) != 1) {
+        points[turns] = i;
+        turns++;
+      }
+    }
+    int least = Integer.MAX_VALUE;
+    int best = 0;
+    for (int word = 0; word < 1 << turns; word++) {
+      int sum = 0;
+      for (int t = 0; t < turns; t++) {
+        int next = (t + 1) % turns;
+        boolean mine = (word >> turns - 1 - t & 1) == 1;
+        boolean other = (word >> turns - 1 - next & 1) == 1;
+        boolean alike = x.step(f, points[t], 3) == x.step(f, points[next], 3);
+        sum += mine && other ? 100000 : mine ? cost : !other && alike ? 25 : 10;
+      }
+      if (sum < least) {
+        least = sum;
+        best = word;
+      }
+    }
+    Due.is("by trial, " + turns + " turns with " + cost, x.corners(f, cost), least);
+    for (int t = 0; t < turns; t++) {
+      Due.is("by trial, turn " + t + " with " + cost, x.cornered(f, cost, points[t]), best >> turns - 1 - t & 1);
+    }
+  }
+
   private static void pointsWithoutATurn() {
     DotLines x = Due.of("111/111");
     cornered(x, 0, 0, 20, 0, 0, 0, 1, 0, 0, 0, 0, 1, 0);
@@ -305,6 +356,41 @@ public final class BorderBoundsTest {
     ends(Due.of("1"), 0, 71, 0, 2, 3);
   }
 
+  private static void piecesByTrial() {
+    String[] pictures = {"1", "11", "111/101/111", "0110/1100", "010/111/010", "0011/0110/1100", "101/111/101",
+        "1111/1000/1111", "11111/10001", "111/100/100", "111/010/111", "1011/1110", "001/001/111"};
+    int[] misses = {0, 50, 70, 71, 99, 100, 141, 142, 200, 283, 400};
+    for (String picture : pictures) {
+      DotLines x = Due.of(picture);
+      int f = x.faceOf(x.dot(0) == 1 ? 0 : picture.indexOf('1'));
+      for (int miss : misses) {
+        int[] ends = new int[40];
+        int pieces = 3;
+        while (!found(x, f, miss, ends, 0, pieces)) {
+          pieces++;
+        }
+        int[] due = new int[pieces];
+        System.arraycopy(ends, 0, due, 0, pieces);
+        ends(x, f, miss, due);
+      }
+    }
+  }
+
+  /** Whether just so many pieces go from where piece n begins to the end: the longest is tried first. */
+  private static boolean found(DotLines x, int f, int miss, int[] ends, int n, int pieces) {
+    int steps = x.face(f, 11);
+    if (n == pieces) {
+      return ends[n] == steps;
+    }
+    for (int j = steps; j > ends[n]; j--) {
+      ends[n + 1] = j;
+      if (x.inBand(f, ends[n], j, miss) == 1 && found(x, f, miss, ends, n + 1, pieces)) {
+        return true;
+      }
+    }
+    return false;
+  }
+
   private static void missesOfFewest() {
     DotLines x = Due.of("1");
     Due.is("0", x.fewest(0, 0, -1), 4);
@@ -327,6 +413,23 @@ public final class BorderBoundsTest {
     Due.is("and not with 400", x.drawn(0, 400, 0), 0);
     Due.is("below", x.drawn(0, -1, 0), -1);
     Due.is("above", x.drawn(0, 401, 0), -1);
+  }
+
+  private static void drawnByLinesUpAndDown() {
+    // 0, 0 to 2, 0 to 1, 1 and back: the one line goes down and the other up through a middle
+    DotLines x = Due.of("11");
+    ends(x, 0, 71, 0, 2, 4);
+    Due.is("on the line up, with the line down to the right", x.drawn(0, 71, 0), 1);
+    Due.is("on the line down", x.drawn(0, 71, 1), 0);
+    Due.is("one of both", x.differ(0, 71), 1);
+    // 0, 0 to 2, 1 to 0, 2 and back: both slanted lines are 1 from the left at the middles' heights
+    x = Due.of("11/11");
+    ends(x, 0, 99, 0, 3, 6);
+    int[] due = {1, 0, 1, 0};
+    for (int n = 0; n < 4; n++) {
+      Due.is("left of it, or on it, " + n, x.drawn(0, 99, Due.at(n % 2, n / 2)), due[n]);
+    }
+    Due.is("two of four", x.differ(0, 99), 2);
   }
 
   private static void drawnAtTheRim() {

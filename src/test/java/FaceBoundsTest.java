@@ -18,6 +18,7 @@ public final class FaceBoundsTest {
     liesInOneHoleAlone();
     deepestRings();
     noNeighbours();
+    neighboursByEachSide();
     asManyNeighboursAsThereCanBe();
     pairsFromTheFirstToTheLast();
     countsOfLeast();
@@ -265,6 +266,23 @@ public final class FaceBoundsTest {
     Due.is("by a corner alone they are none", x.pair(x.faceOf(0), x.faceOf(17), 0), 0);
     x.touch(1);
     Due.is("by touch 1, too", x.pair(x.faceOf(0), x.faceOf(17), 0), 0);
+  }
+
+  private static void neighboursByEachSide() {
+    // one dot with another face at each side and each corner
+    DotLines x = Due.of("123/405/678");
+    int middle = x.faceOf(17);
+    int[] sides = {1, 16, 18, 33};
+    int[] corners = {0, 2, 32, 34};
+    for (int n = 0; n < 4; n++) {
+      Due.is("by a side", x.pair(middle, x.faceOf(sides[n]), 0), 1);
+      Due.is("by a side, the other way", x.pair(x.faceOf(sides[n]), middle, 0), 1);
+      Due.is("by a corner", x.pair(middle, x.faceOf(corners[n]), 0), 0);
+      Due.is("by a corner, the other way", x.pair(x.faceOf(corners[n]), middle, 0), 0);
+    }
+    Due.is("four", x.face(middle, 8), 4);
+    Due.is("of a corner's two", x.face(0, 8), 2);
+    Due.is("of a side's three", x.face(1, 8), 3);
   }
 
   private static void asManyNeighboursAsThereCanBe() {

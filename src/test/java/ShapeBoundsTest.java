@@ -8,8 +8,10 @@ public final class ShapeBoundsTest {
   public static void main(String[] args) {
     breadthsFrom1To12();
     breadthsAtTheRim();
+    breadthsBesideASquare();
     middlesAtTheRim();
     middlesAsGreat();
+    middlesOfOneFaceAndAnother();
     strokesFrom1To16();
     widerThanTwice();
     likeItself();
@@ -73,6 +75,23 @@ public final class ShapeBoundsTest {
     Due.is("greatest", x.face(0, 10), 8);
   }
 
+  private static void breadthsBesideASquare() {
+    // a dot at the middle of each side of a square of three
+    DotLines x = Due.of("00100/01110/11111/01110/00100");
+    x.touch(1);
+    int[] beside = {2, 32, 36, 66};
+    for (int at : beside) {
+      Due.is("beside the square, dot " + at, x.breadth(at, 0), 1);
+    }
+    for (int y = 1; y < 4; y++) {
+      for (int u = 1; u < 4; u++) {
+        Due.is("in the square", x.breadth(Due.at(u, y), 0), 3);
+      }
+    }
+    Due.is("what is round it", x.breadth(0, 0), 1);
+    Due.is("its corner", x.breadth(1, 0), 1);
+  }
+
   private static void middlesAtTheRim() {
     DotLines x = Due.of("1*16");
     for (int at = 0; at < 16; at++) {
@@ -106,6 +125,19 @@ public final class ShapeBoundsTest {
     Due.is("a corner", x.breadth(0, 1), 1);
     Due.is("a side", x.breadth(18, 1), 0);
     Due.is("beyond the side", x.breadth(19, 1), 1);
+  }
+
+  private static void middlesOfOneFaceAndAnother() {
+    // a square of three, a bar, and a square of three: asked by turns
+    DotLines x = Due.of("1112333/1112333/1112333");
+    for (int y = 0; y < 3; y++) {
+      for (int u = 0; u < 7; u++) {
+        boolean side = u != 3 && (u % 4 == 1) != (y == 1);
+        Due.is("middle " + u + ", " + y, x.breadth(Due.at(u, y), 1), side ? 0 : 1);
+        Due.is("breadth " + u + ", " + y, x.breadth(Due.at(u, y), 0), u == 3 ? 1 : 3);
+      }
+    }
+    Due.is("of a square, behind another face", x.face(1, 10) + x.breadth(17, 1), 2);
   }
 
   // ---- promise 20
